@@ -135,6 +135,13 @@ public final class AskedTest {
         Check.same("rule 0 counts dirty, too", x.rate(0), 83);
         Check.same("rule 1 clean alone", x.rate(1), 30);
         Check.same("rule 2 ash, too", x.rate(2), 32);
+        BinWard y = new BinWard();
+        y.street(1, 0);
+        y.habit(0, 2, 1);
+        y.lorry(10, 2, 2);
+        y.round(0, 1, 0);
+        y.pass(1);
+        Check.same("of 1 kilo", y.rate(0), 100);
     }
 
     // Promise 21

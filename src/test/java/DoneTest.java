@@ -5,6 +5,7 @@ public final class DoneTest {
         binsFill();
         roundsEndWithTheShift();
         chambersFill();
+        halfForOneKilo();
         restGoesToTheOven();
         loadsShareTheOven();
         paperGoesThroughTheLine();
@@ -16,6 +17,7 @@ public final class DoneTest {
         opens();
         sweeps();
         claims();
+        eachDayAndStreetByItself();
         Check.end();
     }
 
@@ -129,6 +131,39 @@ public final class DoneTest {
         Check.same("dirty stays", y.ofStreet(2, 9), 18);
         Check.same("half done", y.ofLorry(0, 5), 1);
         Check.same("paper is free", y.ofStreet(0, 11), 0);
+        Check.same("114 clean, 36 dirty: 21 out, 5 lost", y.many(12), 26);
+        y.lorry(10, 1, 1);
+        y.round(1, 3, 2);
+        Check.same("what was left, and two days more", y.pass(2), 48);
+        Check.same("24 clean, 24 dirty: 14 out, 1 lost", y.many(12), 26 + 15);
+        y.pass(5);
+        Check.same("half done once more", y.ofLorry(0, 5), 1);
+        y.clear(0, 1);
+        y.round(0, 1, 0);
+        y.pass(7);
+        Check.same("half done no more", y.ofLorry(0, 5), 0);
+    }
+
+    private static void halfForOneKilo() {
+        BinWard x = new BinWard();
+        for (int i = 0; i < 3; i++) {
+            x.street(1, 0);
+            x.habit(i, 1, 9);
+        }
+        x.lorry(20, 0, 1);
+        x.habit(2, 1, 0);
+        x.pass(6);
+        x.habit(2, 1, 9);
+        x.pass(3);
+        x.habit(2, 1, 4);
+        for (int i = 0; i < 3; i++) {
+            x.round(0, 3, i);
+        }
+        // bins of 60, 60 and 31
+        Check.same("150 of 151", x.pass(1), 150);
+        Check.same("1 is left", x.ofStreet(2, 7), 1);
+        Check.same("that is half done", x.ofLorry(0, 5), 1);
+        Check.same("all three are done", x.ofLorry(0, 4), 3);
     }
 
     private static void restGoesToTheOven() {
@@ -210,6 +245,27 @@ public final class DoneTest {
         Check.same("two bales at once", y.many(3), 2);
         Check.same("12 are left", y.many(1), 12);
         Check.same("LOST is burnt", y.many(12), 4);
+
+        BinWard z = new BinWard();
+        z.street(1, 0);
+        z.habit(0, 1, 6);
+        z.lorry(10, 1, 1);
+        z.round(0, 0, 0);
+        z.pass(7);
+        Check.same("just 40 make a bale", z.many(3), 1);
+        Check.same("none is left", z.many(1), 0);
+
+        BinWard w = new BinWard();
+        w.street(1, 0);
+        w.street(1, 0);
+        w.habit(0, 1, 9);
+        w.habit(1, 1, 3);
+        w.lorry(20, 1, 0);
+        w.pass(12);
+        w.round(0, 6, 0);
+        w.round(0, 6, 1);
+        w.pass(1);
+        Check.same("5 of 100 of 99, rounded down", w.many(12), 4);
     }
 
     private static void handIsPerDay() {
@@ -234,6 +290,10 @@ public final class DoneTest {
         x.hand(50);
         x.pass(1);
         Check.same("no more than there is", x.many(2), 2);
+        x.eye(50);
+        x.pass(1);
+        Check.same("nor than the eye left", x.many(2), 2);
+        Check.same("each dirty kilo is burnt once", x.many(12), 3 + 3 + 4 + 4);
     }
 
     private static void noMoreThanTwentyBales() {
@@ -288,6 +348,26 @@ public final class DoneTest {
         Check.same("a tenth of 1, rounded up", y.many(8), 1);
         Check.same("none is left", y.many(5), 0);
         Check.same("a twentieth of 1, rounded down", y.many(7), 0);
+
+        BinWard z = new BinWard();
+        z.street(1, 0);
+        z.habit(0, 2, 9);
+        z.lorry(10, 2, 2);
+        z.round(0, 2, 0);
+        z.pass(1);
+        z.habit(0, 2, 1);
+        z.pass(1);
+        Check.same("10 less 1", z.many(5), 9);
+        Check.same("gone of 10", z.many(8), 1);
+        z.habit(0, 2, 2);
+        z.pass(5);
+        z.clear(0, 2);
+        z.round(0, 1, 0);
+        z.habit(0, 2, 5);
+        z.pass(1);
+        // 9, 8, 7, 6, 5, 4 by a tenth, rounded up; 15 come to them: 19
+        Check.same("a twentieth of 19", z.many(7), 0);
+        Check.same("a tenth of 19", z.many(5), 17);
     }
 
     private static void pitGivesGas() {
@@ -436,6 +516,28 @@ public final class DoneTest {
         Check.no("day 604", x.claim(1, 604));
         Check.yes("a day long ago", x.claim(1, 8));
         Check.state("again", x, () -> x.claim(1, 603));
+    }
+
+    private static void eachDayAndStreetByItself() {
+        BinWard x = new BinWard();
+        x.lorry(10, 0, 0);
+        for (int i = 0; i < 6; i++) {
+            x.street(30, 0);
+            x.round(0, i, i);
+        }
+        x.pass(30);
+        x.pass(30);
+        x.pass(30);
+        for (int day = 90; day >= 30; day--) {
+            for (int i = 0; i < 6; i++) {
+                Check.same("claim(" + i + ", " + day + ")", x.claim(i, day) ? 1 : 0,
+                    day % 7 == i ? 1 : 0);
+            }
+        }
+        // the weekdays 6 and 0 come 8 and 9 times from 30 to 90
+        Check.same("street 0", x.ofStreet(0, 11), -16);
+        Check.same("street 2", x.ofStreet(2, 11), -18);
+        Check.same("street 5 was missed", x.ofStreet(5, 12), 13);
     }
 
     private static BinWard cityWithBales() {

@@ -203,6 +203,10 @@ public final class ToldTest {
         y.pass(7);
         Check.same("clean with the eye 100", y.many(1) + bales(y, 0), 40);
         Check.same("dirty with the eye 100", y.many(2) + bales(y, 1), 0);
+        BinWard z = paperCity(4);
+        z.eye(99);
+        z.pass(7);
+        Check.same("dirty with the eye 99", z.many(2) + bales(z, 1), 1);
     }
 
     // Promise 9

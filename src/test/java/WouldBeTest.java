@@ -4,8 +4,10 @@ public final class WouldBeTest {
         fullIn();
         bestFetch();
         bestRound();
+        bestOfSeveral();
         bestOfOneStream();
         wouldLie();
+        wouldLieIfMissed();
         digest();
         Check.end();
     }
@@ -31,10 +33,20 @@ public final class WouldBeTest {
         Check.same("dirty kilos count, too", x.fullIn(0, 1), 1);
         x.pass(1);
         Check.same("full", x.fullIn(0, 1), 0);
+        x.pass(30);
+        x.pass(22);
+        Check.same("room for 1", x.fullIn(0, 0), 1);
+        x.pass(1);
+        Check.same("room for none", x.fullIn(0, 0), 0);
+        x.lorry(10, 2, 2);
+        x.round(0, 5, 0);
+        x.pass(1);
+        Check.same("fetched just now", x.fullIn(0, 2), 10);
         x.habit(0, 1, 0);
         Check.same("full without a habit", x.fullIn(0, 1), 0);
         x.habit(0, 2, 0);
         Check.same("not full without a habit", x.fullIn(0, 2), -1);
+        Check.same("the others stay", x.fullIn(0, 0), 0);
         long before = x.digest();
         x.fullIn(0, 0);
         Check.same("nothing is changed", x.digest(), before);
@@ -97,6 +109,42 @@ public final class WouldBeTest {
         Check.same("and fetches 1", x.bestFetch(1), 1);
     }
 
+    private static void bestOfSeveral() {
+        BinWard x = new BinWard();
+        int[] places = {10, 5, 8, 3};
+        for (int i = 0; i < 4; i++) {
+            x.street(places[i], 0);
+            x.habit(i, 0, i == 0 ? 9 : 1);
+        }
+        x.lorry(27, 0, 1);
+        x.lorry(25, 0, 1);
+        x.lorry(23, 0, 1);
+        x.pass(1);
+        // the far one and any two others take 26 minutes: 1021, 1013 or 1023
+        Check.same("the smallest number", x.bestRound(0), 1013);
+        Check.same("its kilos", x.bestFetch(0), 11);
+        Check.same("the far one and another one take 24", x.bestRound(1), 101);
+        Check.same("its kilos", x.bestFetch(1), 10);
+        Check.same("the far one alone takes 22", x.bestRound(2), 10);
+        Check.same("its kilos", x.bestFetch(2), 9);
+        x.habit(2, 1, 9);
+        x.habit(3, 1, 9);
+        x.pass(1);
+        // 8 and 3, with 5 on the way: 22 minutes as well, and 24 kilos
+        Check.same("without the far one", x.bestRound(2), 1123);
+        Check.same("its kilos", x.bestFetch(2), 24);
+
+        BinWard y = new BinWard();
+        y.lorry(120, 0, 0);
+        for (int i = 0; i < 6; i++) {
+            y.street(1 + i, 0);
+            y.habit(i, 0, 9);
+        }
+        y.pass(1);
+        Check.same("all six", y.bestRound(0), 1012345);
+        Check.same("their kilos", y.bestFetch(0), 54);
+    }
+
     private static void bestOfOneStream() {
         BinWard x = new BinWard();
         for (int i = 0; i < 6; i++) {
@@ -151,6 +199,23 @@ public final class WouldBeTest {
         Check.same("as it was foretold", x.many(17), due);
         x.sweep(0);
         Check.same("from the litter that lies", x.wouldLie(1), x.many(17) + litterOfOneDay(x));
+    }
+
+    private static void wouldLieIfMissed() {
+        BinWard x = new BinWard();
+        x.street(8, 0);
+        x.street(9, 0);
+        x.habit(0, 0, 9);
+        x.habit(1, 0, 9);
+        x.lorry(18, 0, 0);
+        for (int day = 0; day < 7; day++) {
+            x.round(0, day, 0);
+            x.round(0, day, 1);
+        }
+        Check.same("the far street is missed", x.wouldLie(7), 3);
+        x.pass(30);
+        Check.same("so it was", x.many(17), 210);
+        Check.same("30 days more", x.wouldLie(30), 480);
     }
 
     /** The same city as in wouldLie(), lived from its beginning to the day asked for. */
@@ -209,6 +274,11 @@ public final class WouldBeTest {
         x.claim(0, 3);
         Check.same("after a sale", x.digest(), byHand(x));
         Check.same("twice the same", x.digest(), x.digest());
+        x.clear(0, 0);
+        x.clear(1, 3);
+        x.pass(20);
+        Check.yes("litter grows", x.wouldLie(2) < x.wouldLie(3) && x.wouldLie(3) < x.wouldLie(4));
+        Check.same("with litter", x.digest(), byHand(x));
     }
 
     private static long byHand(BinWard x) {
