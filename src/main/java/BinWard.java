@@ -398,8 +398,10 @@ public final class BinWard {
         for (int what = 0; what < WHATS_OF_LORRY; what++) {
             d = d * 31 + ofLorry(lorry, what);
         }
-        d = d * 31 + bestFetch(lorry);
-        return d * 31 + bestRound(lorry);
+        // one search answers what bestFetch() and bestRound() would
+        search.run(lorries[lorry], streets, streetCount);
+        d = d * 31 + search.bestKilos;
+        return d * 31 + search.bestNumber;
     }
 
     // ---- one DAY
@@ -503,7 +505,7 @@ public final class BinWard {
         return rule == 1 ? used : used + furnace.ash;
     }
 
-    /** Both are at least 1. */
+    /** Of a whole that is not below 0. */
     private static int roundedUp(int whole, int part) {
         return part <= 0 ? 0 : (whole + part - 1) / part;
     }
