@@ -511,6 +511,14 @@ public final class LorryEdgesTest {
         Town.daily(x, 60, GREEN, PAPER, 0, 1, 2);
         Check.same("7 and 150", x.pass(1), 157);
         Check.same("30 are left, though the first has room", x.ofStreet(2, 7), 30);
+
+        BinWard y = Town.at(1, 1, 1);
+        for (int i = 0; i < 3; i++) {
+            Town.fill(y, i, PAPER, 60, 0);
+        }
+        Town.fill(y, 0, GREEN, 36, 24);
+        Town.daily(y, 60, GREEN, PAPER, 0, 1, 2);
+        Check.same("the dirty 24 take no room from the 150", y.pass(1), 210);
     }
 
     // "if both CHAMBERS are of one STREAM, the second one gets of what is left"

@@ -65,6 +65,7 @@ public final class TradeEdgesTest {
         rateIsZeroWithoutAny();
         rateIsRoundedDown();
         rateCountsSoldBalesAlone();
+        rateCountsTheCleanKilosOfEachBale();
         rateOfGreen();
         rateOfAsh();
         rateOfAllFetchedEver();
@@ -630,6 +631,28 @@ public final class TradeEdgesTest {
         Check.same("40 of 42", y.rate(0), 95);
         Check.same("39 of 42", y.rate(1), 92);
         Check.same("39 of 42, and no ash", y.rate(2), 92);
+    }
+
+    // "CLEAN kilos of BALES that were SOLD": those of each, which may differ
+    private static void rateCountsTheCleanKilosOfEachBale() {
+        BinWard x = Town.at(1);
+        Town.fill(x, 0, PAPER, 42, 0);
+        int lorry = Town.daily(x, 60, PAPER, REST, 0);
+        x.pass(1);
+        Town.clearAll(x, lorry);
+        Town.fill(x, 0, PAPER, 36, 24);
+        x.eye(0);
+        for (int day = 0; day < 7; day++) {
+            x.round(lorry, day, 0);
+        }
+        x.pass(1);
+        Check.same("clean of the first", x.ofBale(0, 0), 40);
+        // 35 clean and 24 dirty came to the baler
+        Check.same("clean of the second", x.ofBale(1, 0), 24);
+        x.sell(0, 40, 1);
+        x.sell(1, 40, 1);
+        Check.same("80 of 102", x.rate(0), 78);
+        Check.same("64 of 102", x.rate(1), 62);
     }
 
     // "GREEN that came to the HEAP, CLEAN and DIRTY" / "and COMPOST"
